@@ -383,15 +383,13 @@ public final class GrantServer {
         Grant() {
         }
 
-        /** Sets every mark anew, since the row may have held another grant before a sweep. */
+        /** Takes the marks away too, since the row may have held another grant before a sweep. */
         void begin(int number, int owner, int scopes, int end, Family family) {
             this.number = number;
             this.owner = owner;
             this.scopes = scopes;
             this.end = end;
             this.family = family;
-            redirect = 0;
-            challenge = 0;
             spent = false;
             revoked = false;
         }

@@ -73,6 +73,8 @@ public final class TokensTest {
         }
         due.is("number 65535", x.refresh(200, 5, 65535), 2);
         due.is("number 1", x.refresh(65535, 1, 1), 3);
+        due.is("scopes 15 of 15", Bench.exchanged(15).refresh(200, 15, 201), 2);
+        due.is("scopes 16 of 15", Bench.exchanged(15).refresh(200, 16, 201), GrantServer.SCOPE);
     }
 
     private static void refreshRefusesInOrder() {
