@@ -95,6 +95,7 @@ public final class BoundsTest {
         sweepAtTheEnd();
         sweepLeavesSpentAndRevoked();
         sweepOfAll();
+        sweepOfSome();
     }
 
     /** Lives 50, 60 and 70, at time 0; client 0 (secret 5, redirect 11, scopes 15) is logged in. */
@@ -159,6 +160,12 @@ public final class BoundsTest {
         for (int i = 1; i <= 16; i++) {
             due.yes("code " + i + " is there", x.active(0, i));
         }
+        x.exchange(1, 11, 0, 100);
+        due.is("code 17, one spent", x.authorize(0, 11, 1, 0, 17), GrantServer.FULL);
+        x.tick(50);
+        due.is("code 17, all ended", x.authorize(0, 11, 1, 0, 17), GrantServer.FULL);
+        x.sweep();
+        due.is("code 17, all swept", x.authorize(0, 11, 1, 0, 17), 0);
     }
 
     /** "REFRESH TOKENS (at most 24)" and "FULL there are 24 refresh tokens", access tokens swept. */
@@ -204,6 +211,9 @@ public final class BoundsTest {
         due.is("refresh for token 25", x.refresh(1008, 0, 1009), GrantServer.FULL);
         due.is("exchange for token 25", x.exchange(4, 11, 0, 1009), GrantServer.FULL);
         due.is("access tokens then", x.count(2, false), 24);
+        x.revoke(2, 24);
+        due.is("refresh for token 25, one revoked", x.refresh(1008, 0, 1009), GrantServer.FULL);
+        due.is("exchange for token 25, one revoked", x.exchange(4, 11, 0, 1009), GrantServer.FULL);
     }
 
     /** "are there from when they are made until a sweep takes them away" */
@@ -634,6 +644,7 @@ public final class BoundsTest {
                 Bench.type(x, text);
                 due.is("challenge " + given + " of " + challenge, x.exchange(100, 11, 1, 200),
                     given == challenge ? 1 : GrantServer.GRANT);
+                due.is("the input stays", Bench.text(x, false), text);
             }
         }
     }
@@ -741,7 +752,10 @@ public final class BoundsTest {
                 boolean within = (has | scopes) == has;
                 due.is("scopes " + scopes + " of " + has, x.refresh(200, scopes, 201),
                     within ? 2 : GrantServer.SCOPE);
-                due.is("all scopes then", x.refresh(within ? 201 : 200, has, 202), within ? 3 : 2);
+                due.is("for the family's", x.refresh(within ? 201 : 200, 0, 202), within ? 3 : 2);
+                due.is("its text", Bench.text(x, true),
+                    Bench.wrapped(7, Bench.claims(0, 1, 60, within ? 3 : 2, has)));
+                due.is("for all of them", x.refresh(202, has, 203), within ? 4 : 3);
             }
         }
     }
@@ -795,6 +809,11 @@ public final class BoundsTest {
         due.is("none spent", withPairs(1).revoke(1, 1001), 2);
         due.is("the most", withPairs(24).revoke(1, 1024), 25);
         due.is("the most, by the first", withPairs(24).revoke(1, 1001), 25);
+        GrantServer ended = withTokens();
+        ended.tick(69);
+        ended.refresh(200, 0, 201);
+        ended.tick(1);
+        due.is("by one that is spent and ended", ended.revoke(1, 200), 2);
         GrantServer x = withPairs(24);
         for (int number = 1; number <= 24; number++) {
             due.is("access token " + number, x.revoke(2, number), 1);
@@ -970,12 +989,16 @@ public final class BoundsTest {
         due.is("the number of a revoked token", x.authorize(0, 11, 1, 0, 1024), GrantServer.TAKEN);
     }
 
-    /** Full rooms are empty after a sweep, and can be filled again. */
+    /** Full rooms are empty after a sweep, and can be filled again with what is neither spent nor revoked. */
     private static void sweepOfAll() {
         GrantServer x = withPairs(24);
         for (int i = 3; i <= 16; i++) {
             x.authorize(0, 11, 1, 0, i);
         }
+        for (int number = 1; number <= 24; number++) {
+            x.revoke(2, number);
+        }
+        x.revoke(1, 1024);
         x.tick(1000);
         due.is("sweep", x.sweep(), 64);
         for (int kind = 0; kind < 3; kind++) {
@@ -983,13 +1006,59 @@ public final class BoundsTest {
         }
         for (int i = 1; i <= 16; i++) {
             due.is("code " + i, x.authorize(0, 11, 1, 0, i), 0);
+            due.is("active codes", x.count(0, true), i);
         }
         due.is("code 17", x.authorize(0, 11, 1, 0, 17), GrantServer.FULL);
         for (int i = 1; i <= 24; i++) {
             due.is("pair " + i, i == 1 ? x.exchange(1, 11, 0, 1001) : x.refresh(999 + i, 0, 1000 + i),
                 24 + i);
+            due.is("active access tokens", x.count(2, true), i);
         }
         due.is("pair 25", x.refresh(1024, 0, 1025), GrantServer.FULL);
         due.is("active tokens", x.count(1, true) + x.count(2, true), 25);
+    }
+
+    /** "others .. stay": of full rooms those that have not ended, each with its number, and room for more. */
+    private static void sweepOfSome() {
+        GrantServer x = new GrantServer(7, 100, 100, 100);
+        x.client(5, 11, 1);
+        x.login(0, 5);
+        for (int i = 0; i < 24; i++) {
+            if (i < 15) {
+                x.authorize(0, 11, 1, 0, 1 + i);
+            }
+            x.tick(i % 2);
+        }
+        x.authorize(0, 11, 1, 0, 16);
+        // The time is 12: codes 1 and 2 end at 100, 3 and 4 at 101, .. 13 and 14 at 106, 15 at 107.
+        for (int i = 1; i <= 24; i++) {
+            due.is("pair " + i, i == 1 ? x.exchange(1, 11, 0, 1001) : x.refresh(999 + i, 0, 1000 + i), i);
+            x.tick(i % 2);
+        }
+        // The time is 24: of the tokens 1 ends at 112, 2 and 3 at 113, 4 and 5 at 114, .. 24 at 124.
+        x.tick(79);
+        due.is("sweep at 103", x.sweep(), 8);
+        for (int i = 17; i <= 24; i++) {
+            due.is("code " + i, x.authorize(0, 11, 1, 0, i), 0);
+        }
+        due.is("code 25", x.authorize(0, 11, 1, 0, 25), GrantServer.FULL);
+        for (int i = 1; i <= 24; i++) {
+            due.is("code " + i + " is active", x.active(0, i), i > 8);
+        }
+        x.tick(12);
+        due.is("sweep at 115", x.sweep(), 8 + 7 + 7);
+        for (int i = 1; i <= 24; i++) {
+            due.is("access token " + i + " is active", x.active(2, i), i > 7);
+            due.is("refresh token " + i + " is active", x.active(1, 1000 + i), i == 24);
+        }
+        for (int i = 25; i <= 31; i++) {
+            due.is("pair " + i, x.refresh(999 + i, 0, 1000 + i), i);
+        }
+        due.is("pair 32", x.refresh(1031, 0, 1032), GrantServer.FULL);
+        for (int i = 1; i <= 32; i++) {
+            due.is("access token " + i + " is active", x.active(2, i), i > 7 && i < 32);
+        }
+        due.is("active refresh tokens", x.count(1, true), 1);
+        due.yes("refresh token 31", x.active(1, 1031));
     }
 }

@@ -334,10 +334,10 @@ public final class RefusedCallsTest {
 
     private static String whatIsInTheTexts(GrantServer x) {
         List<Object> told = new ArrayList<>();
-        told.add(x.check(1, 1));
-        told.add(x.challenge());
         told.add(Bench.text(x, false));
         told.add(Bench.text(x, true));
+        told.add(x.challenge());
+        told.add(x.check(1, 1));
         told.add(x.take(true));
         told.add(x.check(1, 5));
         told.add(x.check(1, 2));

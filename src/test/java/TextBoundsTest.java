@@ -322,7 +322,7 @@ public final class TextBoundsTest {
         due.no("and no other", x.key('a'));
         due.is("take over a longer one", x.take(true), 119);
         due.is("letter 119", x.letter(false, 119), GrantServer.NONE);
-        x.take(false);
+        due.is("take of none, the output stays", x.take(false), 0);
         due.is("take over none", x.take(true), 119);
         due.is("input", Bench.text(x, false), Bench.wrapped(1, "m".repeat(81)));
     }
@@ -488,7 +488,9 @@ public final class TextBoundsTest {
 
     /** "members .., at least one": none, or too few. */
     private static void claimsOfNothing() {
-        for (String claims : new String[] {"", " ", "{}", "{ }", " { } ", "{,}", "{:}", "{\"sub\":0}"}) {
+        for (String claims : new String[] {
+            "", " ", "{}", "{ }", " { } ", "{,}", "{:}", "{,,,,}", "{\"sub\":0}",
+        }) {
             claimsAre(claims, GrantServer.CLAIMS);
         }
     }
@@ -500,7 +502,9 @@ public final class TextBoundsTest {
         for (String open : new String[] {"", "{{", "}", "[", "(", ",{", "{,", "x{", "{x"}) {
             claimsAre(open + inside + "}", GrantServer.CLAIMS);
         }
-        for (String close : new String[] {"", "}}", "{", "]", ")", "},", ",}", "}x", "x}", "} x", "}.", "}{"}) {
+        for (String close : new String[] {
+            "", "}}", "{", "]", ")", "},", ",}", "}x", "x}", "} x", "}.", "}{",
+        }) {
             claimsAre("{" + inside + close, GrantServer.CLAIMS);
         }
         claimsAre("{" + GOOD + "}", GrantServer.CLAIMS);
@@ -565,14 +569,19 @@ public final class TextBoundsTest {
             String[] others = {
                 name, "\"" + name, name + "\"", "'" + name + "'", "\"" + quoted, quoted + "\"", "\"\"",
                 "\"" + name.substring(1) + "\"", "\"" + name.substring(0, name.length() - 1) + "\"",
-                "\"" + name + "s\"", "\"x" + name + "\"", "\"" + name.toUpperCase() + "\"", "\" " + name + "\"",
+                "\"" + name + "s\"", "\"x" + name + "\"", "\"" + name.toUpperCase() + "\"",
+                "\" " + name + "\"",
                 "\"" + name + " \"", quoted + quoted, "",
+                "'" + name + "\"", "\"" + name + "'", " " + name + "\"", "\"" + name + ":",
             };
             for (String other : others) {
                 claimsAre(GOOD.replace(quoted, other), GrantServer.CLAIMS);
             }
             for (String colon : new String[] {"", "::", ": :", "=", ",", ";", " "}) {
                 claimsAre(GOOD.replace(quoted + ":", quoted + colon), GrantServer.CLAIMS);
+            }
+            for (String member : new String[] {quoted, quoted + ":", ":0", "0", "0:" + quoted, ""}) {
+                claimsAre(GOOD.replaceFirst(quoted + ":[0-9]+", member), GrantServer.CLAIMS);
             }
         }
     }
@@ -649,7 +658,7 @@ public final class TextBoundsTest {
 
     /** Only the space is one: no other character may stand in its stead, whatever its eight bits. */
     private static void claimsNoOtherCharacters() {
-        String[] parts = {GOOD.substring(0, 1), GOOD.substring(1, 6), GOOD.substring(6, 7), GOOD.substring(7)};
+        String[] parts = {"{", "\"sub\"", ":", GOOD.substring(7)};
         for (int code = 0; code <= 255; code++) {
             for (int gap = 0; gap <= parts.length; gap++) {
                 // Behind the colon a digit would be one of the number, not between it and others.
