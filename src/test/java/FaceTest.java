@@ -34,12 +34,28 @@ public final class FaceTest {
         }
         due.is("modifiers of the class", GrantServer.class.getModifiers(),
             Modifier.PUBLIC | Modifier.FINAL);
+        due.yes("nothing is inherited but Object's",
+            GrantServer.class.getSuperclass() == Object.class
+                && GrantServer.class.getInterfaces().length == 0);
+        noPrivateNamesake(due);
         for (Class<?> inside : GrantServer.class.getDeclaredClasses()) {
             int modifiers = inside.getModifiers();
             due.no(inside + " is seen", Modifier.isPublic(modifiers) || Modifier.isProtected(modifiers));
             due.yes(inside + " is static", Modifier.isStatic(modifiers));
         }
         due.end();
+    }
+
+    /** Rule 1 of LANGUAGE.md. */
+    private static void noPrivateNamesake(Due due) {
+        TreeSet<String> names = new TreeSet<>();
+        for (Method m : GrantServer.class.getMethods()) {
+            names.add(m.getName());
+        }
+        for (Method m : GrantServer.class.getDeclaredMethods()) {
+            due.no(m + " bears a public method's name",
+                Modifier.isPrivate(m.getModifiers()) && names.contains(m.getName()));
+        }
     }
 
     private static TreeSet<String> membersSeen(Due due) throws IllegalAccessException {
